@@ -54,6 +54,31 @@ final class Tools {
         return x.register(0);
     }
 
+    /** A new object but for its counter and its flags (ZERO + 2 * CARRY); its program is all 0 again. */
+    static GateProcessor at(int position, int flags) {
+        // SHIFT to the left gives every pair of flags: CARRY is bit 7, ZERO says that nothing else is left.
+        GateProcessor x = with(word(SHIFT, 0, 0, 0), word(LOAD, 0, 0, 0), word(JUMP, 0, 0, position));
+        x.setRegister(0, 128 * (flags / 2) + 1 - flags % 2);
+        x.cycle(3, 0);
+        for (int i = 0; i < 3; i++) {
+            x.program(i, 0);
+        }
+        return x;
+    }
+
+    /** Writes the word at the counter and does it. */
+    static int doOne(GateProcessor x, int word) {
+        x.program(x.counter(), word);
+        return x.cycle(1, 0);
+    }
+
+    /** Numbers that are not 0 .. last, among them those that would be in the range if bits were cut off. */
+    static int[] outside(int last) {
+        int size = last + 1;
+        return new int[] {-1, -2, -last, -size, 1 - size, -256, -65536, Integer.MIN_VALUE, Integer.MIN_VALUE + 1,
+            size, size + 1, 2 * size, 2 * size + 1, 1 << 17, (1 << 30) + 1, Integer.MAX_VALUE, Integer.MAX_VALUE - 1};
+    }
+
     /** Everything is other than 0 or false; all of it is given by the words' own meaning. */
     static GateProcessor busy() {
         GateProcessor x = with(
